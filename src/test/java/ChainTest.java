@@ -15,8 +15,8 @@ public final class ChainTest {
         x.domain(-1, false);
         x.domain(0, false);
         x.domain(0, false);
-        x.key(1, 0, 5);
-        x.key(2, 1, 6);
+        x.key(1, 0, 1);
+        x.key(2, 1, 2);
         x.mail(0, 0, 0);
         x.header(0);
         Due.type(x, 0, "subject");
@@ -62,7 +62,7 @@ public final class ChainTest {
         Due.is("a fifth without a key", x.link(1, 1), -1);
         x.key(2, 1, 9);
         Due.is("a fifth on a bad chain", x.link(1, 0), -1);
-        x.key(2, 1, 6);
+        x.key(2, 1, 2);
         Due.is("a fifth on a good one", x.link(1, 0), -2);
     }
 
@@ -80,7 +80,7 @@ public final class ChainTest {
             Due.is("no key of " + d, x.chain(), 2);
             x.key(d, selector, 100);
             Due.is("another key of " + d, x.chain(), 2);
-            x.key(d, selector, 4 + d);
+            x.key(d, selector, d);
             Due.is("the key again of " + d, x.chain(), 1);
         }
         x.silent(0, true);

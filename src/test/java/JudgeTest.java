@@ -84,6 +84,8 @@ public final class JudgeTest {
         Due.is("the one that would do is spoilt", x.judge(0), 2);
         x.sign(2, 0, 0, -1, -1);
         Due.is("the third does", x.judge(0), 4);
+        x.mail(4, 2, 7);
+        Due.is("those of the mail before do not", x.judge(0), 2);
     }
 
     private static void whosePolicy() {

@@ -82,9 +82,6 @@ public final class LongRunsTest {
         switch (choice) {
             case 0 -> {
                 boolean is = random.nextInt(5) == 0;
-                for (int k = 0; k < domains && !is; k++) {
-                    Due.is(name, x.silent(k, is), y.silent(k, is));
-                }
                 Due.is(name, x.silent(d, is), y.silent(d, is));
             }
             case 1, 2 -> {

@@ -77,6 +77,7 @@ public final class MailTextTest {
         Due.is("header -2", x.type(-2, 65, 1), -1);
         Due.is("n = 0", x.type(0, 65, 0), -1);
         Due.is("n = 9", x.type(0, 65, 9), -1);
+        Due.is("n = 9, all of them letters", x.type(0, 0x4141414141414141L, 9), -1);
         Due.is("n = -1", x.type(-1, 65, -1), -1);
         Due.is("two of three bytes", x.type(1, 0xFF4142L, 2), 2);
         Due.is("one more", x.type(1, 0x20, 1), 3);

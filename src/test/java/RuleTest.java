@@ -116,6 +116,10 @@ public final class RuleTest {
         x.silent(2, true);
         Due.is("silent", x.sender(), 5);
         Due.is("silent is counted as a lookup", x.counted(0), 1);
+        MailArbiter y = with(3, 0);
+        y.rule(1, 0, ADDRESSES, 2, 32);
+        y.host(2, 0, 5);
+        Due.is("address 0 is not that of an empty place", y.sender(), 4);
     }
 
     private static void exchangersOfADomain() {
@@ -142,6 +146,11 @@ public final class RuleTest {
         x.silent(3, false);
         x.silent(2, true);
         Due.is("the domain is silent", x.sender(), 5);
+        MailArbiter y = with(3, 7);
+        y.rule(1, 0, EXCHANGERS, 2, 32);
+        y.host(2, 1, 2);
+        y.host(0, 0, 7);
+        Due.is("domain 0 is not that of an empty place", y.sender(), 4);
     }
 
     private static void existing() {
