@@ -2,7 +2,7 @@ import java.util.Random;
 
 /** Runs of 512 calls, the same ones every time, compared with the plain second writing of the document. */
 public final class LongRunsTest {
-    private static final int RUNS = 3000;
+    private static final int RUNS = 6000;
     private static final int CALLS = 512;
     private static final int[] ADDRESSES = {0, 1, 9, -1, 0x0A000001, 0x0A000002, 0x0A0000FF, 0x0A010001};
     private static final int[] ODD = {-1, -2, -3, 20, 33, 100, 256, 1001, 1000001, 100001,
@@ -13,11 +13,14 @@ public final class LongRunsTest {
     private final MailArbiter x = new MailArbiter();
     private final PlainArbiter y = new PlainArbiter();
     private final int domains;
+    // A mail's rooms fill only where, after a time, little is published and mails seldom come.
+    private final boolean calm;
     private final String run;
 
     private LongRunsTest(int seed) {
         random = new Random(seed);
         domains = 2 + random.nextInt(seed % 4 == 0 ? 21 : 6);
+        calm = seed % 3 == 0;
         run = "run " + seed + ", call ";
     }
 
@@ -41,11 +44,29 @@ public final class LongRunsTest {
     }
 
     private int upTo(int bound, int wild) {
-        return random.nextInt(wild) == 0 ? ODD[random.nextInt(ODD.length)] : random.nextInt(bound);
+        if (random.nextInt(wild) == 0) {
+            return ODD[random.nextInt(ODD.length)];
+        }
+        return random.nextInt(wild) == 0 ? atAnEdge(0, bound - 1) : random.nextInt(bound);
+    }
+
+    /** The lowest, the highest, or the next one beyond them. */
+    private int atAnEdge(int lowest, int highest) {
+        int[] edges = {lowest - 1, lowest, highest, highest + 1};
+        return edges[random.nextInt(edges.length)];
     }
 
     private int orNone(int bound, int wild) {
         return random.nextInt(3) == 0 ? -1 : upTo(bound, wild);
+    }
+
+    private int limit(int how, int wild) {
+        boolean relaxed = how >= 4;
+        return random.nextInt(4) == 0 ? atAnEdge(-1, y.length(-1, relaxed)) : orNone(12, wild);
+    }
+
+    private int life(int wild) {
+        return random.nextInt(8) == 0 ? atAnEdge(-1, 100000) : orNone(4, wild);
     }
 
     private int address() {
@@ -55,7 +76,7 @@ public final class LongRunsTest {
     private long characters() {
         long sum = 0;
         for (int i = 0; i < 8; i++) {
-            int c = random.nextInt(60) == 0 ? random.nextInt(256) : TYPED.charAt(random.nextInt(4));
+            int c = random.nextInt(calm ? 600 : 60) == 0 ? random.nextInt(256) : TYPED.charAt(random.nextInt(4));
             sum = sum << 8 | c;
         }
         return sum;
@@ -66,6 +87,9 @@ public final class LongRunsTest {
         int e = upTo(domains, wild);
         int choice = random.nextInt(46);
         String name = run + i + ", choice " + choice;
+        if (calm && i > CALLS / 3 && choice < 16 && random.nextInt(12) != 0) {
+            choice = 16 + random.nextInt(13);
+        }
         if (choice < 14) {
             publish(choice, name, d, e, wild);
         } else if (choice < 29) {
@@ -95,7 +119,7 @@ public final class LongRunsTest {
             }
             case 6, 7, 8, 9 -> {
                 int selector = upTo(2, wild);
-                int key = upTo(3, wild);
+                int key = random.nextInt(8) == 0 ? atAnEdge(1, 1000000) : upTo(3, wild);
                 Due.is(name, x.key(d, selector, key), y.key(d, selector, key));
             }
             case 10, 11, 12 -> {
@@ -130,8 +154,8 @@ public final class LongRunsTest {
             case 23, 24, 25 -> {
                 int how = upTo(8, wild);
                 int names = upTo(256, wild);
-                int limit = orNone(12, wild);
-                int life = orNone(4, wild);
+                int limit = limit(how, wild);
+                int life = life(wild);
                 Due.is(name, x.sign(d, how, names, limit, life), y.sign(d, how, names, limit, life));
             }
             case 26 -> {
