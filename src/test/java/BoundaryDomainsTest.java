@@ -1,4 +1,7 @@
-/** The boundary cases of the promises 1 to 5: a new object, domain, home, silent, host. Each test tells its sentence. */
+/**
+ * The boundary cases of the promises 1 to 5: a new object, domain, home, silent, host. Each test tells its
+ * sentence.
+ */
 public final class BoundaryDomainsTest {
     public static void main(String[] args) {
         noDomains();
@@ -121,7 +124,10 @@ public final class BoundaryDomainsTest {
         Refused.full("a 21st below the last", Given::fullOfAll, y -> y.domain(19, true));
     }
 
-    /** Terms: A domain without a parent, and one that was told so, is a SUFFIX. The HOME is itself, if it is a suffix. */
+    /**
+     * Terms: A domain without a parent, and one that was told so, is a SUFFIX. The HOME is itself, if it is
+     * a suffix.
+     */
     private static void aSuffixIsItsOwnHome() {
         MailArbiter x = new MailArbiter();
         x.domain(-1, false);

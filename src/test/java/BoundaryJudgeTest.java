@@ -27,12 +27,11 @@ public final class BoundaryJudgeTest {
         Due.end();
     }
 
-    /** 0 is a suffix with the homes 1 and 4 below it; 2 and 3 are below 1. Each has a key and passes what is from HERE. */
+    /** A family of five, each of whom has a key and passes what is from HERE. */
     private static MailArbiter withDomains() {
         MailArbiter x = new MailArbiter();
-        int[] parents = {-1, 0, 1, 1, 0};
-        for (int d = 0; d < parents.length; d++) {
-            x.domain(parents[d], false);
+        Given.familyOfFive(x);
+        for (int d = 0; d < 5; d++) {
             x.key(d, 0, 10 + d);
             x.rule(d, 0, 1, HERE, 32);
         }
@@ -181,7 +180,10 @@ public final class BoundaryJudgeTest {
         Due.is("not strict for signatures", x.judge(99), 4);
     }
 
-    /** Promise 20: that of its home (then what is below counts, if that is another domain): a home's own one is its own. */
+    /**
+     * Promise 20: that of its home (then what is below counts, if that is another domain): a home's own one
+     * is its own.
+     */
     private static void itsHomeIsItself() {
         for (int author : new int[] {0, 1, 4}) {
             MailArbiter x = withDomains();
@@ -294,7 +296,10 @@ public final class BoundaryJudgeTest {
         }
     }
 
-    /** Promise 20: by the author's home, the mail's address, what is done, and the sender's result; a new row comes when there is none such. */
+    /**
+     * Promise 20: by the author's home, the mail's address, what is done, and the sender's result; a new
+     * row comes when there is none such.
+     */
     private static void rowsByFourThings() {
         MailArbiter x = withDomains();
         x.mail(4, 2, 0);

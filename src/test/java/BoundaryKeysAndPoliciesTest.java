@@ -121,7 +121,10 @@ public final class BoundaryKeysAndPoliciesTest {
         Due.is("domain 19", with(20).policy(19, 0, 0, 0, 0), true);
     }
 
-    /** Promise 8: false when a number is out of its range: own, 0 nothing, 1 aside, 2 refuse; -1: none any more. */
+    /**
+     * Promise 8: false when a number is out of its range: own, 0 nothing, 1 aside, 2 refuse; -1: none any
+     * more.
+     */
     private static void ownOutOfRange() {
         Refused.notEver("own -2", x -> x.policy(1, -2, 0, 0, 100));
         Refused.notEver("own 3", x -> x.policy(1, 3, 0, 0, 100));

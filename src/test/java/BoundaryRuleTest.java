@@ -1,11 +1,5 @@
 /** The boundary cases of promise 6, rule. Each test tells its sentence. */
 public final class BoundaryRuleTest {
-    private static final int ADDRESS = 1;
-    private static final int ADDRESSES = 2;
-    private static final int EXCHANGERS = 3;
-    private static final int EXISTING = 5;
-    private static final int REDIRECT = 6;
-
     public static void main(String[] args) {
         noSuchDomain();
         noSuchSign();
@@ -32,7 +26,7 @@ public final class BoundaryRuleTest {
 
     /** Promise 6: NONE when there is no such domain. */
     private static void noSuchDomain() {
-        for (int kind = 0; kind <= REDIRECT; kind++) {
+        for (int kind = 0; kind <= Kind.REDIRECT; kind++) {
             int k = kind;
             Refused.noneEver("of domain -1, kind " + k, x -> x.rule(-1, 0, k, 0, 0));
             Refused.noneEver("of domain 20, kind " + k, x -> x.rule(20, 0, k, 0, 0));
@@ -49,7 +43,7 @@ public final class BoundaryRuleTest {
 
     /** Promise 6: NONE when there is no such sign. (0 pass, 1 fail, 2 soft fail, 3 neutral) */
     private static void noSuchSign() {
-        for (int kind = 0; kind <= EXISTING; kind++) {
+        for (int kind = 0; kind <= Kind.EXISTING; kind++) {
             int k = kind;
             Refused.noneEver("sign -1, kind " + k, x -> x.rule(1, -1, k, 1, 1));
             Refused.noneEver("sign 4, kind " + k, x -> x.rule(1, 4, k, 1, 1));
@@ -72,7 +66,7 @@ public final class BoundaryRuleTest {
         for (int sign : signs) {
             MailArbiter x = with(2);
             x.rule(1, 2, 0, 0, 0);
-            Due.is("a redirect with sign " + sign, x.rule(0, sign, REDIRECT, 1, 0), 0);
+            Due.is("a redirect with sign " + sign, x.rule(0, sign, Kind.REDIRECT, 1, 0), 0);
             Due.is("is there", x.sender(), 3);
         }
     }
@@ -84,15 +78,15 @@ public final class BoundaryRuleTest {
         for (int far : Given.FAR) {
             Refused.noneEver("kind " + far, x -> x.rule(1, 0, far, 1, 1));
         }
-        for (int kind = 0; kind <= EXISTING; kind++) {
+        for (int kind = 0; kind <= Kind.EXISTING; kind++) {
             Due.is("kind " + kind, with(2).rule(1, 0, kind, 1, 1), 1);
         }
-        Due.is("kind 6 is no term", with(2).rule(1, 0, REDIRECT, 1, 1), 0);
+        Due.is("kind 6 is no term", with(2).rule(1, 0, Kind.REDIRECT, 1, 1), 0);
     }
 
     /** Promise 6: NONE when there is no such length. (those of the kinds 1 to 3 have a LENGTH too (0 to 32)) */
     private static void noSuchLength() {
-        for (int kind = ADDRESS; kind <= EXCHANGERS; kind++) {
+        for (int kind = Kind.ADDRESS; kind <= Kind.EXCHANGERS; kind++) {
             int k = kind;
             Refused.noneEver("length -1, kind " + k, x -> x.rule(1, 0, k, 1, -1));
             Refused.noneEver("length 33, kind " + k, x -> x.rule(1, 0, k, 1, 33));
@@ -108,7 +102,7 @@ public final class BoundaryRuleTest {
     private static void lengthCountsWhereThereIsOne() {
         int[] lengths = {-1, 33, Integer.MIN_VALUE, Integer.MAX_VALUE};
         for (int length : lengths) {
-            for (int kind : new int[] {0, 4, EXISTING}) {
+            for (int kind : new int[] {0, 4, Kind.EXISTING}) {
                 MailArbiter x = with(2);
                 x.host(1, 0, 5);
                 x.rule(1, 0, 0, 0, 0);
@@ -117,14 +111,14 @@ public final class BoundaryRuleTest {
             }
             MailArbiter y = with(2);
             y.rule(1, 1, 0, 0, 0);
-            Due.is("length " + length + ", the redirect", y.rule(0, 0, REDIRECT, 1, length), 0);
+            Due.is("length " + length + ", the redirect", y.rule(0, 0, Kind.REDIRECT, 1, length), 0);
             Due.is("it is there", y.sender(), 2);
         }
     }
 
     /** Promise 6: NONE when v is no domain (kinds 2 to 6). */
     private static void noDomainForV() {
-        for (int kind = ADDRESSES; kind <= REDIRECT; kind++) {
+        for (int kind = Kind.ADDRESSES; kind <= Kind.REDIRECT; kind++) {
             int k = kind;
             Refused.noneEver("v -1, kind " + k, x -> x.rule(1, 0, k, -1, 1));
             Refused.noneEver("v 20, kind " + k, x -> x.rule(1, 0, k, 20, 1));
@@ -132,7 +126,7 @@ public final class BoundaryRuleTest {
             for (int far : Given.FAR) {
                 Refused.noneEver("v " + far + ", kind " + k, x -> x.rule(1, 0, k, far, 1));
             }
-            int due = kind == REDIRECT ? 0 : 1;
+            int due = kind == Kind.REDIRECT ? 0 : 1;
             Due.is("v 0, kind " + k, with(5).rule(2, 0, k, 0, 1), due);
             Due.is("the last as v, kind " + k, with(5).rule(2, 0, k, 4, 1), due);
             Due.is("itself as v, kind " + k, with(5).rule(2, 0, k, 2, 1), due);
@@ -148,7 +142,7 @@ public final class BoundaryRuleTest {
             Due.is("all, v " + v, x.rule(0, 1, 0, v, 0), 1);
             Due.is("all matches", x.sender(), 2);
             MailArbiter y = with(1);
-            Due.is("address, v " + v, y.rule(0, 1, ADDRESS, v, 32), 1);
+            Due.is("address, v " + v, y.rule(0, 1, Kind.ADDRESS, v, 32), 1);
             y.mail(0, 0, v);
             Due.is("the address matches", y.sender(), 2);
             y.mail(0, 0, v ^ 1);
@@ -160,16 +154,16 @@ public final class BoundaryRuleTest {
     private static void sixTerms() {
         MailArbiter x = with(1);
         for (int i = 1; i <= 6; i++) {
-            Due.is("term " + i, x.rule(0, i % 4, ADDRESS, i, 32), i);
+            Due.is("term " + i, x.rule(0, i % 4, Kind.ADDRESS, i, 32), i);
         }
-        Due.is("term 7", x.rule(0, 0, ADDRESS, 7, 32), -2);
+        Due.is("term 7", x.rule(0, 0, Kind.ADDRESS, 7, 32), -2);
         for (int i = 1; i <= 6; i++) {
             x.mail(0, 0, i);
             Due.is("term " + i + " is there", x.sender(), i % 4 + 1);
         }
         x.mail(0, 0, 7);
         Due.is("term 7 is not", x.sender(), 4);
-        for (int kind = 0; kind <= EXISTING; kind++) {
+        for (int kind = 0; kind <= Kind.EXISTING; kind++) {
             int k = kind;
             Refused.full("a seventh, kind " + k, Given::fullOfAll, y -> y.rule(1, 0, k, 1, 0));
         }
@@ -178,13 +172,13 @@ public final class BoundaryRuleTest {
     /** Terms: at most 6 TERMS, and perhaps a REDIRECT: it is no term, and has room beside six. */
     private static void aRedirectTakesNoRoom() {
         MailArbiter x = with(3);
-        Due.is("before the terms", x.rule(0, 0, REDIRECT, 1, 0), 0);
+        Due.is("before the terms", x.rule(0, 0, Kind.REDIRECT, 1, 0), 0);
         for (int i = 1; i <= 6; i++) {
-            Due.is("term " + i, x.rule(0, 0, ADDRESS, 9, 32), i);
+            Due.is("term " + i, x.rule(0, 0, Kind.ADDRESS, 9, 32), i);
         }
-        Due.is("a seventh", x.rule(0, 0, ADDRESS, 9, 32), -2);
+        Due.is("a seventh", x.rule(0, 0, Kind.ADDRESS, 9, 32), -2);
         x.rule(2, 1, 0, 0, 0);
-        Due.is("another beside six", x.rule(0, 0, REDIRECT, 2, 0), 6);
+        Due.is("another beside six", x.rule(0, 0, Kind.REDIRECT, 2, 0), 6);
         Due.is("it counts", x.sender(), 2);
     }
 
@@ -193,12 +187,12 @@ public final class BoundaryRuleTest {
         MailArbiter x = with(5);
         for (int d = 1; d < 5; d++) {
             x.rule(d, d - 1, 0, 0, 0);
-            Due.is("redirect to " + d, x.rule(0, 0, REDIRECT, d, 0), 0);
+            Due.is("redirect to " + d, x.rule(0, 0, Kind.REDIRECT, d, 0), 0);
             Due.is("it is in place of the one before", x.sender(), d);
         }
-        Due.is("a refused one", x.rule(0, 0, REDIRECT, 5, 0), -1);
+        Due.is("a refused one", x.rule(0, 0, Kind.REDIRECT, 5, 0), -1);
         Due.is("leaves the one there was", x.sender(), 4);
-        x.rule(0, 0, REDIRECT, 1, 0);
+        x.rule(0, 0, Kind.REDIRECT, 1, 0);
         Due.is("the first again", x.sender(), 1);
         Due.is("one lookup, not one for each there was", x.counted(0), 1);
     }
@@ -208,15 +202,15 @@ public final class BoundaryRuleTest {
         MailArbiter x = with(2);
         Due.is("no rule", x.sender(), 0);
         x.rule(0, 4, 0, 0, 0);
-        x.rule(0, 0, ADDRESS, 0, 33);
-        x.rule(0, 0, REDIRECT, 2, 0);
+        x.rule(0, 0, Kind.ADDRESS, 0, 33);
+        x.rule(0, 0, Kind.REDIRECT, 2, 0);
         Due.is("none comes with what is refused", x.sender(), 0);
-        x.rule(0, 0, ADDRESS, 1, 32);
+        x.rule(0, 0, Kind.ADDRESS, 1, 32);
         Due.is("one with a term", x.sender(), 4);
         MailArbiter y = with(2);
         y.rule(1, 0, 0, 0, 0);
         Due.is("a rule of another is none of its own", y.sender(), 0);
-        y.rule(0, 0, REDIRECT, 1, 0);
+        y.rule(0, 0, Kind.REDIRECT, 1, 0);
         Due.is("one with a redirect", y.sender(), 1);
     }
 

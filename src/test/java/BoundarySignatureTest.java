@@ -2,8 +2,6 @@ import java.util.Arrays;
 
 /** The boundary cases of the promises 13 to 15: sign, spoil, signature. Each test tells its sentence. */
 public final class BoundarySignatureTest {
-    private static final long FACTOR = 0x9E3779B97F4A7C15L;
-
     public static void main(String[] args) {
         noSuchDomain();
         selectorAndWayOutOfRange();
@@ -51,15 +49,6 @@ public final class BoundarySignatureTest {
         MailArbiter x = new MailArbiter();
         given(x, header, body);
         return x;
-    }
-
-    private static int digest(int... values) {
-        long h = 0;
-        for (int x : values) {
-            h = (h ^ x) * FACTOR;
-            h = h ^ (h >>> 30);
-        }
-        return (int) (h >>> 33);
     }
 
     /** Promise 13: NONE when there is no such domain. */
@@ -390,10 +379,10 @@ public final class BoundarySignatureTest {
     private static void thenTheBody() {
         MailArbiter x = with("a", "b");
         x.sign(1, 0, 255, -1, -1);
-        int old = digest(77, 1, 0, 0, 255, -1, -1, digest('b', 10), 3, 'a', 0);
+        int old = Digest.of(77, 1, 0, 0, 255, -1, -1, Digest.of('b', 10), 3, 'a', 0);
         Due.type(x, -1, "c");
         Due.is("another body", x.signature(0), 2);
-        x.spoil(0, digest(77, 1, 0, 0, 255, -1, -1, digest('b', 'c', 10), 3, 'a', 0) - old);
+        x.spoil(0, Digest.of(77, 1, 0, 0, 255, -1, -1, Digest.of('b', 'c', 10), 3, 'a', 0) - old);
         Due.is("though the seal were that of now", x.signature(0), 2);
     }
 
@@ -455,14 +444,17 @@ public final class BoundarySignatureTest {
         Given.anEmptyMail(x);
         Due.is("all names, no header", x.sign(0, 0, 255, -1, -1), 0);
         Due.is("checks", x.signature(0), 1);
-        int none = digest(5, 0, 0, 0, 255, -1, -1, digest(10));
+        int none = Digest.of(5, 0, 0, 0, 255, -1, -1, Digest.of(10));
         x.header(7);
         Due.is("a header, empty", x.signature(0), 2);
-        x.spoil(0, digest(5, 0, 0, 0, 255, -1, -1, digest(10), 7, 0) - none);
+        x.spoil(0, Digest.of(5, 0, 0, 0, 255, -1, -1, Digest.of(10), 7, 0) - none);
         Due.is("its name and 0 are in the seal", x.signature(0), 1);
     }
 
-    /** Terms: its name and the characters of its canonical text, and 0: an empty text and one of blanks are the same, relaxed. */
+    /**
+     * Terms: its name and the characters of its canonical text, and 0: an empty text and one of blanks are
+     * the same, relaxed.
+     */
     private static void emptyHeaders() {
         MailArbiter x = with("", "");
         x.sign(1, 0, 8, -1, -1);
@@ -482,11 +474,11 @@ public final class BoundarySignatureTest {
         }
         x.sign(1, 0, 8, -1, -1);
         Due.is("six of one name", x.signature(0), 1);
-        int[] start = {77, 1, 0, 0, 8, -1, -1, digest('b', 10), 3, 'a', 0, 3, 0, 3, 0, 3, 0, 3, 0};
-        int old = digest(append(start, 3, 0));
+        int[] start = {77, 1, 0, 0, 8, -1, -1, Digest.of('b', 10), 3, 'a', 0, 3, 0, 3, 0, 3, 0, 3, 0};
+        int old = Digest.of(append(start, 3, 0));
         Due.type(x, 5, "z");
         Due.is("the last counts", x.signature(0), 2);
-        x.spoil(0, digest(append(start, 3, 'z', 0)) - old);
+        x.spoil(0, Digest.of(append(start, 3, 'z', 0)) - old);
         Due.is("in its place", x.signature(0), 1);
     }
 
@@ -500,10 +492,10 @@ public final class BoundarySignatureTest {
     private static void digestOfNothing() {
         MailArbiter x = with("", "b");
         x.sign(1, 0, 0, 0, -1);
-        int old = digest(77, 1, 0, 0, 0, 0, -1, 0);
+        int old = Digest.of(77, 1, 0, 0, 0, 0, -1, 0);
         x.key(1, 0, 1000000);
         Due.is("another key", x.signature(0), 2);
-        x.spoil(0, digest(1000000, 1, 0, 0, 0, 0, -1, 0) - old);
+        x.spoil(0, Digest.of(1000000, 1, 0, 0, 0, 0, -1, 0) - old);
         Due.is("its seal", x.signature(0), 1);
     }
 
@@ -517,7 +509,7 @@ public final class BoundarySignatureTest {
         Arrays.fill(body, '~');
         body[90] = 10;
         Due.type(x, -1, "~".repeat(90));
-        int[] seal = {1000000, 19, 1, 3, 255, 91, 100000, digest(body)};
+        int[] seal = {1000000, 19, 1, 3, 255, 91, 100000, Digest.of(body)};
         for (int k = 0; k < 6; k++) {
             x.header(7);
             Due.type(x, k, "~".repeat(24));
@@ -529,11 +521,11 @@ public final class BoundarySignatureTest {
         }
         Due.is("sign", x.sign(19, 7, 255, 91, 100000), 0);
         Due.is("checks", x.signature(0), 1);
-        int old = digest(seal);
+        int old = Digest.of(seal);
         seal[0] = 1;
         x.key(19, 1, 1);
         Due.is("another key", x.signature(0), 2);
-        x.spoil(0, digest(seal) - old);
+        x.spoil(0, Digest.of(seal) - old);
         Due.is("its seal", x.signature(0), 1);
     }
 }

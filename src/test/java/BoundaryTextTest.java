@@ -284,7 +284,10 @@ public final class BoundaryTextTest {
         Due.is("lines' ends take room as well", lines.type(-1, 10, 1), -2);
     }
 
-    /** Promise 11: NONE when one of them cannot be there; FULL when there would be too many: NONE is told first. */
+    /**
+     * Promise 11: NONE when one of them cannot be there; FULL when there would be too many: NONE is told
+     * first.
+     */
     private static void noneBeforeFull() {
         Refused.none("in a header", Given::fullOfAll, x -> x.type(0, 127, 1));
         Refused.none("10 in a header", Given::fullOfAll, x -> x.type(0, 10, 1));
@@ -318,7 +321,10 @@ public final class BoundaryTextTest {
         Due.is("relaxed [" + text + "]", x.length(0, true), relaxed);
     }
 
-    /** Terms: RELAXED without blanks at its beginning and end, each run of blanks within as one space. BLANKS are 9 and 32. */
+    /**
+     * Terms: RELAXED without blanks at its beginning and end, each run of blanks within as one space.
+     * BLANKS are 9 and 32.
+     */
     private static void headersOfBlanks() {
         header("", 0);
         header(" ", 0);
@@ -371,7 +377,10 @@ public final class BoundaryTextTest {
         body(" \n".repeat(45), 90, 1);
     }
 
-    /** Terms: at its end all characters 10 are taken away, and then one is put; no blanks before a 10 or at the end of the body. */
+    /**
+     * Terms: at its end all characters 10 are taken away, and then one is put; no blanks before a 10 or at
+     * the end of the body.
+     */
     private static void endsOfBodies() {
         body("a", 2, 2);
         body("a\n", 2, 2);

@@ -25,7 +25,7 @@ final class Given {
 
     /** Some of everything, and room for one more; there is no domain 5. */
     static void someOfAll(MailArbiter x) {
-        familyOfFive(x);
+        familyWithKeys(x);
         x.host(1, 0, 7);
         x.host(2, 0, 0x0A000001);
         x.host(2, 1, 1);
@@ -44,11 +44,15 @@ final class Given {
     }
 
     /** 0 is a suffix with the homes 1 and 4 below it; 2 and 3 are below 1. */
-    private static void familyOfFive(MailArbiter x) {
+    static void familyOfFive(MailArbiter x) {
         int[] parents = {-1, 0, 1, 1, 0};
         for (int parent : parents) {
             x.domain(parent, false);
         }
+    }
+
+    private static void familyWithKeys(MailArbiter x) {
+        familyOfFive(x);
         x.key(1, 0, 11);
         x.key(1, 1, 12);
         x.key(2, 0, 21);
@@ -67,7 +71,7 @@ final class Given {
 
     /** As much of everything as there is room for, in domain 1 and in the mail. */
     static void fullOfAll(MailArbiter x) {
-        familyOfFive(x);
+        familyWithKeys(x);
         for (int i = 5; i < 20; i++) {
             x.domain(i - 1, i % 5 == 0);
         }

@@ -12,14 +12,9 @@ public final class JudgeTest {
         Due.end();
     }
 
-    /** 0 is a suffix with the homes 1 and 4 below it; 2 and 3 are below 1. */
     private static MailArbiter withDomains() {
         MailArbiter x = new MailArbiter();
-        x.domain(-1, false);
-        x.domain(0, false);
-        x.domain(1, false);
-        x.domain(1, false);
-        x.domain(0, false);
+        Given.familyOfFive(x);
         for (int d = 0; d < 5; d++) {
             x.key(d, 0, 10 + d);
         }

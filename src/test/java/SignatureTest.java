@@ -186,35 +186,26 @@ public final class SignatureTest {
         Due.is("good again", x.signature(0), 1);
     }
 
-    private static int digest(int... values) {
-        long h = 0;
-        for (int x : values) {
-            h = (h ^ x) * 0x9E3779B97F4A7C15L;
-            h = h ^ (h >>> 30);
-        }
-        return (int) (h >>> 33);
-    }
-
     /** The seal of a changed mail less that of the old one mends a signature, if both are as the document says. */
     private static void sealsAreTheDigest() {
-        int body = digest('b', 10);
+        int body = Digest.of('b', 10);
         MailArbiter x = with("a  b", "b");
         x.tick(40);
         x.sign(1, 1, 8 + 4, -1, 5);
-        int old = digest(88, 1, 1, 0, 12, -1, 45, body, 3, 'a', 32, 32, 'b', 0);
+        int old = Digest.of(88, 1, 1, 0, 12, -1, 45, body, 3, 'a', 32, 32, 'b', 0);
         x.header(2);
         Due.type(x, 1, " c");
         Due.is("another header", x.signature(0), 2);
-        int seal = digest(88, 1, 1, 0, 12, -1, 45, body, 3, 'a', 32, 32, 'b', 0, 2, 32, 'c', 0);
+        int seal = Digest.of(88, 1, 1, 0, 12, -1, 45, body, 3, 'a', 32, 32, 'b', 0, 2, 32, 'c', 0);
         x.spoil(0, seal - old);
         Due.is("its seal is due now", x.signature(0), 1);
 
         MailArbiter y = with("a  b ", " b  c \nd");
         y.sign(1, 6, 255, 3, -1);
-        int limited = digest(32, 'b', 32);
-        int before = digest(77, 1, 0, 3, 255, 3, -1, limited, 3, 'a', 32, 'b', 0);
+        int limited = Digest.of(32, 'b', 32);
+        int before = Digest.of(77, 1, 0, 3, 255, 3, -1, limited, 3, 'a', 32, 'b', 0);
         y.key(1, 0, 78);
-        int after = digest(78, 1, 0, 3, 255, 3, -1, limited, 3, 'a', 32, 'b', 0);
+        int after = Digest.of(78, 1, 0, 3, 255, 3, -1, limited, 3, 'a', 32, 'b', 0);
         y.spoil(0, after - before);
         Due.is("the seal under another key", y.signature(0), 1);
     }
@@ -222,9 +213,9 @@ public final class SignatureTest {
     private static void bodiesCannotBeMendedBySpoiling() {
         MailArbiter x = with("", "b");
         x.sign(1, 0, 0, -1, -1);
-        int old = digest(77, 1, 0, 0, 0, -1, -1, digest('b', 10));
+        int old = Digest.of(77, 1, 0, 0, 0, -1, -1, Digest.of('b', 10));
         Due.type(x, -1, "c");
-        x.spoil(0, digest(77, 1, 0, 0, 0, -1, -1, digest('b', 'c', 10)) - old);
+        x.spoil(0, Digest.of(77, 1, 0, 0, 0, -1, -1, Digest.of('b', 'c', 10)) - old);
         Due.is("the body's digest is kept beside the seal", x.signature(0), 2);
     }
 }
