@@ -126,10 +126,10 @@ public final class BoundaryKeysAndPoliciesTest {
      * more.
      */
     private static void ownOutOfRange() {
-        Refused.notEver("own -2", x -> x.policy(1, -2, 0, 0, 100));
-        Refused.notEver("own 3", x -> x.policy(1, 3, 0, 0, 100));
+        Refused.notEver("own -2", x -> x.policy(1, -2, 0, 3, 100));
+        Refused.notEver("own 3", x -> x.policy(1, 3, 0, 3, 100));
         for (int far : Given.FAR) {
-            Refused.notEver("own " + far, x -> x.policy(1, far, 0, 0, 100));
+            Refused.notEver("own " + far, x -> x.policy(1, far, 0, 3, 100));
         }
         for (int own = 0; own <= 2; own++) {
             MailArbiter x = with(2);
@@ -142,11 +142,11 @@ public final class BoundaryKeysAndPoliciesTest {
     private static void belowOutOfRange() {
         for (int own = 0; own <= 2; own++) {
             int o = own;
-            Refused.notEver("below -1, own " + o, x -> x.policy(1, o, -1, 0, 100));
-            Refused.notEver("below 3, own " + o, x -> x.policy(1, o, 3, 0, 100));
+            Refused.notEver("below -1, own " + o, x -> x.policy(1, o, -1, 3, 100));
+            Refused.notEver("below 3, own " + o, x -> x.policy(1, o, 3, 3, 100));
         }
         for (int far : Given.FAR) {
-            Refused.notEver("below " + far, x -> x.policy(1, 1, far, 0, 100));
+            Refused.notEver("below " + far, x -> x.policy(1, 1, far, 3, 100));
         }
         for (int below = 0; below <= 2; below++) {
             MailArbiter x = with(2);
@@ -180,10 +180,10 @@ public final class BoundaryKeysAndPoliciesTest {
 
     /** Promise 8: false when a number is out of its range: a PART from 0 to 100. */
     private static void partOutOfRange() {
-        Refused.notEver("part -1", x -> x.policy(1, 1, 1, 0, -1));
-        Refused.notEver("part 101", x -> x.policy(1, 1, 1, 0, 101));
+        Refused.notEver("part -1", x -> x.policy(1, 1, 1, 3, -1));
+        Refused.notEver("part 101", x -> x.policy(1, 1, 1, 3, 101));
         for (int far : Given.FAR) {
-            Refused.notEver("part " + far, x -> x.policy(1, 1, 1, 0, far));
+            Refused.notEver("part " + far, x -> x.policy(1, 1, 1, 3, far));
         }
         for (int part : new int[] {0, 1, 99, 100}) {
             MailArbiter x = with(2);
