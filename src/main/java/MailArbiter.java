@@ -20,6 +20,12 @@ public final class MailArbiter {
     private static final int LONGEST_LIFE = 100000;
     private static final int LONGEST_TICK = 1000;
     private static final int WHOLE_PART = 100;
+    private static final int HIGHEST_SIGN = 3;
+    private static final int HIGHEST_NAME = 7;
+    private static final int HIGHEST_DRAW = 99;
+
+    private static final int HOST_ADDRESS = 0;
+    private static final int HOST_EXCHANGER = 1;
 
     private static final int KIND_ALL = 0;
     private static final int KIND_ADDRESS = 1;
@@ -113,10 +119,10 @@ public final class MailArbiter {
     }
 
     public int host(int d, int kind, int v) {
-        if (!isDomain(d) || !isWithin(kind, 0, 1)) {
+        if (!isDomain(d) || !isWithin(kind, HOST_ADDRESS, HOST_EXCHANGER)) {
             return NONE;
         }
-        if (kind == 0) {
+        if (kind == HOST_ADDRESS) {
             return domains[d].addresses.append(v);
         }
         return isDomain(v) ? domains[d].exchangers.append(v) : NONE;
@@ -133,7 +139,7 @@ public final class MailArbiter {
         if (kind == KIND_REDIRECT) {
             return rule.redirectTo(v);
         }
-        if (!isWithin(sign, 0, 3) || hasLength(kind) && !isWithin(length, 0, ADDRESS_BITS)) {
+        if (!isWithin(sign, 0, HIGHEST_SIGN) || hasLength(kind) && !isWithin(length, 0, ADDRESS_BITS)) {
             return NONE;
         }
         return rule.append(sign, kind, v, length);
@@ -173,7 +179,7 @@ public final class MailArbiter {
     }
 
     public int header(int name) {
-        if (!mail.present || !isWithin(name, 0, 7)) {
+        if (!mail.present || !isWithin(name, 0, HIGHEST_NAME)) {
             return NONE;
         }
         return mail.appendHeader(name);
@@ -196,13 +202,14 @@ public final class MailArbiter {
     }
 
     public int sign(int d, int how, int names, int limit, int life) {
-        if (!mail.present || !isWithin(how, 0, 7) || !hasKey(d, how & 1)) {
+        int selector = how & 1;
+        int way = how >> 1;
+        if (!mail.present || !isWithin(way, 0, ALL_WAYS) || !hasKey(d, selector)) {
             return NONE;
         }
         if (!isWithin(names, 0, ALL_NAMES) || limit < -1 || !isWithin(life, -1, LONGEST_LIFE)) {
             return NONE;
         }
-        int way = how >> 1;
         if (limit > mail.bodyForm((way & RELAXED_BODY) != 0).count) {
             return NONE;
         }
@@ -210,8 +217,8 @@ public final class MailArbiter {
         if (next == null) {
             return FULL;
         }
-        next.fill(d, how & 1, way, names, limit, life == -1 ? -1 : time + life);
-        mail.seal(next, domains[d].keys[how & 1]);
+        next.fill(d, selector, way, names, limit, life == -1 ? -1 : time + life);
+        mail.seal(next, domains[d].keys[selector]);
         mail.signatureCount++;
         return mail.signatureCount - 1;
     }
@@ -259,7 +266,7 @@ public final class MailArbiter {
     }
 
     public int judge(int draw) {
-        if (!mail.present || !isWithin(draw, 0, 99)) {
+        if (!mail.present || !isWithin(draw, 0, HIGHEST_DRAW)) {
             return NONE;
         }
         int result = check.start(domains, mail.sender, mail.address);

@@ -1,3 +1,5 @@
+import java.util.Arrays;
+
 /** The boundary cases of the promises 18 and 19: chain, link. Each test tells its sentence. */
 public final class BoundaryChainTest {
     public static void main(String[] args) {
@@ -12,6 +14,7 @@ public final class BoundaryChainTest {
         silentLinks();
         withoutAKey();
         coversOfAll();
+        coversAreTheDigest();
         theSignatureOfTheLast();
         neverExpiring();
         allNames();
@@ -205,6 +208,50 @@ public final class BoundaryChainTest {
             x.key(d, 0, 10 + d);
             Due.is("its key of " + d, x.chain(), 1);
         }
+    }
+
+    /**
+     * Terms: a COVER, the digest of: the key; the domain, the selector, the state, and the seal of its signature;
+     * and then the covers of all links before. Only a link that is not the last may change its key for one that
+     * happens to give the same cover, so these keys were sought: with any other digest the chain would be bad.
+     */
+    private static void coversAreTheDigest() {
+        int first = Digest.of(11, 1, 1, 0, sealOfLink(11, 1, 1));
+        int second = Digest.of(12, 2, 0, 1, sealOfLink(12, 2, 0), first);
+        sameCover(2934, 770671, 1, 1, 0);
+        sameCover(2263, 687987, 2, 0, 1, first);
+        sameCover(289, 347393, 3, 1, 1, first, second);
+    }
+
+    private static void sameCover(int key, int other, int d, int selector, int state, int... before) {
+        int seal = sealOfLink(key, d, selector);
+        String name = "link " + before.length;
+        Due.is(name + ", the document's digest", coverOf(other, d, selector, state, seal, before),
+                coverOf(key, d, selector, state, seal, before));
+        MailArbiter x = withLinks(0);
+        x.key(1, 1, 11);
+        x.key(3, 1, 13);
+        x.key(d, selector, key);
+        for (int i = 0; i <= before.length; i++) {
+            Due.is("link", x.link(1 + i, (1 + i) % 2), i);
+        }
+        x.link(4, 0);
+        Due.is(name + ", good", x.chain(), 1);
+        x.key(d, selector, other);
+        Due.is(name + ", a key of the same cover", x.chain(), 1);
+        x.key(d, selector, other + 1);
+        Due.is(name + ", the next key", x.chain(), 2);
+    }
+
+    /** The seal of a link's signature over the header and the body of given(). */
+    private static int sealOfLink(int key, int d, int selector) {
+        return Digest.of(key, d, selector, 3, 255, -1, -1, Digest.of('b', 10), 0, 'a', 0);
+    }
+
+    private static int coverOf(int key, int d, int selector, int state, int seal, int[] before) {
+        int[] values = Arrays.copyOf(new int[] {key, d, selector, state, seal}, 5 + before.length);
+        System.arraycopy(before, 0, values, 5, before.length);
+        return Digest.of(values);
     }
 
     /** Terms: and the signature of the last link checks as 1 (that of others need not). */
